@@ -19,20 +19,24 @@ public final class FieldBand {
     /** By KIND, the KIND above it. */
     private static final int[] ABOVE = {NONE, LISTENING, LISTENING, LISTENING, EYED, BACKWARD, FORWARD};
 
+    /** Who listens to THE DRUM listens to no PLAYER's number. */
+    private static final int DRUMMER = -2;
+
     private static final int GOES = 0, PLAYS = 1, FITS = 2, ACTS = 3;
 
     private static final int LOUD = 0, LATE = 1, SPEED = 2, BEAT = 3, STEP = 4, WORDS = 5;
     private static final int NOT = -1, AND = -2, OR = -3;
     private static final String LETTERS = "prckv", SIGNS = "<=>", DIGITS = "0123456789";
-    private static final int NUMBERS = 100;
+    private static final int NUMBERS = 100, COMPARISONS = 3;
+    private static final int SPEED_WITHOUT = 3, BEAT_WITHOUT = 50, STEP_WITHOUT = 2;
 
     private final Field now = new Field();
     private final Field kept = new Field();
     private boolean isKept = false;
     /** SHOW s is in place s + 1; place 0 is without CLAUSES, for when there is no SHOW. */
     private final Show[] shows = new Show[MOST_SHOWS + 1];
-    private final Reader reader = new Reader(now);
-    private final Sound sound = new Sound(now);
+    private final Reader reader;
+    private final Sound sound;
     private final Ways ways = new Ways(now);
     private final Deed deed = new Deed();
 
@@ -40,6 +44,8 @@ public final class FieldBand {
         for (int i = 0; i < shows.length; i++) {
             shows[i] = new Show();
         }
+        reader = new Reader(now, shows[0]);
+        sound = new Sound(now, shows[0]);
     }
 
     // ---- shows, players
@@ -537,9 +543,9 @@ public final class FieldBand {
 
     /** A SHOW that was read; the E of its CLAUSES stand in one row of codes, parts ahead of what joins them. */
     private static final class Show {
-        int speed = 3;
-        int beat = 50;
-        int step = 2;
+        int speed = SPEED_WITHOUT;
+        int beat = BEAT_WITHOUT;
+        int step = STEP_WITHOUT;
         int clauses = 0;
         final int[] word = new int[MOST_CLAUSES];
         final int[] amount = new int[MOST_CLAUSES];
@@ -550,9 +556,9 @@ public final class FieldBand {
         final int[] code = new int[MOST_BYTES];
 
         void clear() {
-            speed = 3;
-            beat = 50;
-            step = 2;
+            speed = SPEED_WITHOUT;
+            beat = BEAT_WITHOUT;
+            step = STEP_WITHOUT;
             clauses = 0;
             used = 0;
         }
@@ -621,14 +627,14 @@ public final class FieldBand {
             return (bits & 1) == 1;
         }
 
-        private static int codeOfTest(int letter, int sign, int number) {
-            return (letter * SIGNS.length() + sign) * NUMBERS + number;
+        static int codeOfTest(int letter, int sign, int number) {
+            return (letter * COMPARISONS + sign) * NUMBERS + number;
         }
 
-        private static boolean passes(int test, int[] about) {
+        static boolean passes(int test, int[] about) {
             int number = test % NUMBERS;
-            int sign = test / NUMBERS % 3;
-            int letter = test / NUMBERS / 3;
+            int sign = test / NUMBERS % COMPARISONS;
+            int letter = test / NUMBERS / COMPARISONS;
             int value = letter >= 0 && letter < about.length ? about[letter] : 0;
             switch (sign) {
                 case 0: return value < number;
@@ -641,11 +647,12 @@ public final class FieldBand {
     /** Reads THE TAPE as a SHOW; whatever fails leaves its place at the first byte that can't go on. */
     private static final class Reader {
         final Field field;
-        Show show = null;
+        Show show;
         int at = 0;
 
-        Reader(Field field) {
+        Reader(Field field, Show show) {
             this.field = field;
+            this.show = show;
         }
 
         /** The FAULT, or NONE. */
@@ -806,19 +813,20 @@ public final class FieldBand {
     /** When each PLAYER PLAYS and is HEARD: as it is, or if a DRUM, a KIND, a PLAYER were otherwise. */
     private static final class Sound {
         final Field field;
-        Show show = null;
+        Show show;
         int drum = FIRST_DRUM;
         /** The PLAYER that is left out, or NONE. */
         int absent = NONE;
         final int[] kind = new int[MOST_PLAYERS];
         final int[] slip = new int[MOST_PLAYERS];
-        /** By PLAYER the one whose PLAYS it adds to, or NONE. */
+        /** By PLAYER whom it listens to: a PLAYER, DRUMMER, or NONE. */
         final int[] source = new int[MOST_PLAYERS];
         final int[] plays = new int[MOST_PLAYERS];
         final int[] about = new int[LETTERS.length()];
 
-        Sound(Field field) {
+        Sound(Field field, Show show) {
             this.field = field;
+            this.show = show;
         }
 
         void hearAll(Show held) {
@@ -828,6 +836,7 @@ public final class FieldBand {
             System.arraycopy(field.kind, 0, kind, 0, MOST_PLAYERS);
             slipAll();
             arrange();
+            playAll();
         }
 
         void slipAll() {
@@ -836,12 +845,11 @@ public final class FieldBand {
             }
         }
 
-        /** Whoever is there, and of which KIND, decides who listens to whom. */
+        /** Who is there, and of which KIND, decides who listens to whom. */
         void arrange() {
             for (int p = 0; p < field.players; p++) {
                 source[p] = sourceOf(p);
             }
-            playAll();
         }
 
         void playAll() {
@@ -865,12 +873,15 @@ public final class FieldBand {
 
         int sourceOf(int p) {
             switch (kind[p]) {
+                case LISTENING:
+                    return DRUMMER;
                 case BACKWARD:
                 case ECHOED:
-                    return nearestInColumn(p, 1);
+                    int behind = nearestInColumn(p, 1);
+                    return behind == NONE ? DRUMMER : behind;
                 case FORWARD:
                     int before = nearestInColumn(p, -1);
-                    return before != NONE && isUnder(kind[before], BACKWARD) ? NONE : before;
+                    return before != NONE && isUnder(kind[before], BACKWARD) ? DRUMMER : before;
                 default:
                     return NONE;
             }
@@ -892,20 +903,20 @@ public final class FieldBand {
         }
 
         /**
-         * PLAYS, along the sources. They never lead back: a FORWARD one takes none that is BACKWARD,
-         * so one way along a column is kept till the end.
+         * PLAYS, along those that are listened to. They never lead back: a FORWARD one listens to none
+         * that is BACKWARD, so that one way along a column is kept till its end.
          */
         int playedBy(int p) {
             int hundredth = 0;
             int at = p;
             for (int i = 0; i < MOST_PLAYERS; i++) {
-                hundredth += slip[at];
-                if (kind[at] == ECHOED) {
-                    hundredth += show.speed * rowOf(field.dot[at]);
-                }
+                hundredth += slip[at] + ownMore(at);
                 int next = source[at];
                 if (next == NONE) {
-                    return hundredth + withoutSource(at);
+                    return hundredth;
+                }
+                if (next == DRUMMER) {
+                    return hundredth + show.speed * far(field.dot[at], drum);
                 }
                 hundredth += show.speed * far(field.dot[at], field.dot[next]);
                 at = next;
@@ -913,19 +924,14 @@ public final class FieldBand {
             return hundredth;
         }
 
-        /** What its KIND adds to PLAYS of one that adds to no other's PLAYS. */
-        int withoutSource(int p) {
+        /** What a KIND adds to PLAYS beside what is listened to. */
+        int ownMore(int p) {
             switch (kind[p]) {
-                case EYED: return 0;
-                case FORWARD: return nearestInColumn(p, -1) == NONE ? 0 : fromDrum(p);
                 case AHEAD: return -field.v[p];
+                case ECHOED: return show.speed * rowOf(field.dot[p]);
                 case COUNTED: return field.v[p] * p;
-                default: return fromDrum(p);
+                default: return 0;
             }
-        }
-
-        int fromDrum(int p) {
-            return show.speed * far(field.dot[p], drum);
         }
 
         int arrival(int seat, int p) {
@@ -973,6 +979,7 @@ public final class FieldBand {
         int sumWithout(int p) {
             absent = p;
             arrange();
+            playAll();
             return sumOfSpreads();
         }
 
@@ -980,6 +987,7 @@ public final class FieldBand {
             kind[p] = wanted;
             slip[p] = sumFor(LATE, p);
             arrange();
+            playAll();
             return arrival(seat, p);
         }
 
@@ -1009,6 +1017,7 @@ public final class FieldBand {
             }
             slipAll();
             arrange();
+            playAll();
             int ofDrum = show.speed * far(placeOfSeat(seat), drum);
             int bits = 0;
             for (int p = 0; p < field.players; p++) {

@@ -129,6 +129,17 @@ public final class PromisesTest {
         due("tape stays", x.count(4), 7);
         due("the fifth holds", x.told(0), 5);
         due("SHOWS", x.count(1), 5);
+        // nothing of a text with a FAULT is left in the next one
+        x = withPlayers("", 0, 0, 0);
+        due("fault", show(x, "speed 9;beat 9;step 9;loud 9 p=0;late 9 p=0;"), -10 - 44);
+        due("told(0)", x.told(0), 3);
+        due("of(0, 3)", x.of(0, 3), 1);
+        due("show", show(x, "late 2 p=1;loud 4 p=0"), 0);
+        due("told(0)", x.told(0), 3);
+        due("told(1)", x.told(1), 50);
+        due("told(2)", x.told(2), 2);
+        due("of(0, 3)", x.of(0, 3), 5);
+        due("of(0, 4)", x.of(0, 4), 0);
     }
 
     private static void fault(String text, int place) {
@@ -401,6 +412,9 @@ public final class PromisesTest {
         due("early(0, 3)", x.early(0, 3), 9 + 6);
         due("early(1, 3)", x.early(1, 3), 24 + 6);
         due("early(2, 7)", x.early(2, 7), 0);
+        x = withPlayers("", 4, 9, 0, 1, 0, 1);
+        due("the first is the earliest", x.early(0, 0), 0);
+        due("the first is the earliest", x.early(1, 0), 9);
         for (int bad : new int[] {-1, 3, MIN, MAX}) due("early(" + bad + ", 0)", x.early(bad, 0), FieldBand.NONE);
         for (int bad : new int[] {-1, 8, MIN, MAX}) due("early(0, " + bad + ")", x.early(0, bad), FieldBand.NONE);
     }
@@ -518,6 +532,9 @@ public final class PromisesTest {
         formOf(x, 24, 9, 5);
         due("hard(0)", x.hard(0), 5);
         due("hard(1)", x.hard(1), 3);
+        formOf(x, 8, 17, 26);
+        due("the farthest last", x.hard(0), 4);
+        due("the farthest last", x.hard(1), 3);
         formOf(x, 0, 1, 2);
         due("all stay", x.hard(0), 7);
         due("all stay", x.hard(1), 0);
@@ -705,6 +722,7 @@ public final class PromisesTest {
             x.player(5, 1, 9);
             formOf(x, 7, 8, 9);
             x.seen(-1);
+            x.seen(9);
             x.drum(0);
             feedText(x, " 9");
             due("show " + round, x.show(), 1);
