@@ -726,7 +726,7 @@ public final class FieldBand {
             return same;
         }
 
-        boolean readEither(int open) {
+        private boolean readEither(int open) {
             if (!readBoth(open)) {
                 return false;
             }
@@ -739,7 +739,7 @@ public final class FieldBand {
             return true;
         }
 
-        boolean readBoth(int open) {
+        private boolean readBoth(int open) {
             if (!readFactor(open)) {
                 return false;
             }
@@ -752,7 +752,7 @@ public final class FieldBand {
             return true;
         }
 
-        boolean readFactor(int open) {
+        private boolean readFactor(int open) {
             if (open < MOST_OPEN && take("!")) {
                 if (!readFactor(open + 1)) {
                     return false;
@@ -1049,7 +1049,7 @@ public final class FieldBand {
         }
 
         /** The PLAYERS ahead of p have their places, as bits in taken. */
-        void tryPlaces(int p, int taken, int greatestSoFar, int sumSoFar) {
+        private void tryPlaces(int p, int taken, int greatestSoFar, int sumSoFar) {
             if (!isBetter(greatestSoFar, sumSoFar)) {
                 return;
             }
@@ -1090,7 +1090,7 @@ public final class FieldBand {
         final int[] bodies = new int[MOST_TRACED];
 
         /** Runs the body that a KIND has, or the next KIND above that has one. */
-        int runFrom(int from, int act, int x, int depth) {
+        private int runFrom(int from, int act, int x, int depth) {
             int at = from;
             for (int i = 0; i < KINDS && at != NONE && bodyOf(at, act) == NONE; i++) {
                 at = ABOVE[at];
@@ -1119,7 +1119,7 @@ public final class FieldBand {
         }
 
         /** above: the KIND above the body's, from which super goes on. */
-        int runBody(int body, int above, int x, int depth) {
+        private int runBody(int body, int above, int x, int depth) {
             switch (body) {
                 case 1: return x + number;
                 case 2: return runFrom(kind, GOES, x, depth) - v;
