@@ -6,6 +6,7 @@ public final class ActEdgesTest {
         noTrace();
         traceOfLatest();
         imageOfAll();
+        imageOfFull();
         imageIsTakenAnew();
         undoWithoutImage();
         undoIsDoneAgain();
@@ -171,6 +172,34 @@ public final class ActEdgesTest {
         Edges.due("a third PLAYER", x.player(0, 0, 9), 2);
         Edges.due("the third DOT of the FORM", x.march(), 1);
         Edges.due("the third DOT of the FORM", x.of(2, 2), 3);
+    }
+
+    /** The tenth PLAYER, the tenth DOTS, the 120th byte are part of it, too. */
+    private static void imageOfFull() {
+        Edges.says("THE IMAGE: all that there is");
+        FieldBand x = Edges.row("", Edges.EYED, 9);
+        x.player(Edges.COUNTED, 7, 9);
+        Edges.form(x, 20, 21, 22, 23, 24, 25, 26, 27, 28, 29);
+        Edges.film(x, 20, 21, 22, 23, 24, 25, 26, 27, 28, 30);
+        Edges.feed(x, "late 10 v<10" + "&v<9".repeat(26) + "&v<8");
+        Edges.due("image()", x.image(), 10);
+        for (int p = 0; p < 10; p++) x.put(p, 40 + p);
+        Edges.form(x, 1, 2, 3, 4, 5, 6, 7, 8, 9, 10);
+        Edges.film(x, 11, 12, 13, 14, 15, 16, 17, 18, 19, 29);
+        Edges.due("THE TAPE is full", x.feed('x', 1), Edges.FULL);
+        Edges.due("show()", x.show(), 0);
+        Edges.feed(x, "beat 1;".repeat(17) + "x");
+        Edges.due("count(4)", x.count(4), 120);
+        Edges.due("undo()", x.undo(), 10);
+        Edges.due("DOTS", Edges.ofAll(x, 2), "0 1 2 3 4 5 6 7 8 9");
+        Edges.due("KINDS", Edges.ofAll(x, 0), "1 1 1 1 1 1 1 1 1 6");
+        Edges.due("vs", Edges.ofAll(x, 1), "0 0 0 0 0 0 0 0 0 7");
+        Edges.due("march()", x.march(), 10);
+        Edges.due("the DOTS of the FORM", Edges.ofAll(x, 2), "20 21 22 23 24 25 26 27 28 29");
+        Edges.due("the DOTS seen", x.off(0), 1);
+        Edges.due("the tenth DOT seen", x.off(1), 9);
+        Edges.due("the bytes of THE TAPE", x.show(), 0);
+        Edges.due("SLIP", Edges.ofAll(x, 4), "10 10 10 10 10 10 10 10 10 10");
     }
 
     private static void imageIsTakenAnew() {

@@ -565,6 +565,9 @@ public final class FieldEdgesTest {
         int last = bestByHand("the last DOT", "speed 1;late 99 p=0;late 7 p=1", 1, 0, 0, 0, 0, 7, 0, 0, 56);
         Edges.due("the same sum on a PLAYER's DOT", last, 0);
         Edges.due("the last DOT", Edges.band("speed 1;late 99 p=0;late 7 p=1", 1, 0, 0, 0, 0, 7, 0, 0, 56).best(0), 63);
+        // the farther THE DRUM from the LISTENING one, the better: beyond the DOTS it would be better still
+        bestByHand("no row beyond row 7", "speed 1;late 99 p=0", 1, 0, 20, 0, 0, 0);
+        bestByHand("no row beyond row 0", "speed 1;late 99 p=0", 1, 0, 20, 0, 0, 56);
         // THE DRUM is best where the LISTENING one is, and can't be there
         int bestOfAll = bestByHand("on a PLAYER's DOT", "speed 5", 1, 0, 0, 0, 0, 27);
         Edges.due("a PLAYER is on the best one", bestOfAll, 27);

@@ -21,6 +21,7 @@ public final class TapeEdgesTest {
         faultOfAnyByte();
         showsAtMost();
         emptyTape();
+        nothingIsLeft();
         withoutShow();
         lastNumbers();
         together();
@@ -417,6 +418,27 @@ public final class TapeEdgesTest {
         Edges.due("THE TAPE is empty then", x.show(), -10);
         Edges.due("the one that held holds", x.told(2), 1);
         Edges.due("SHOWS", x.count(1), 1);
+    }
+
+    private static void nothingIsLeft() {
+        Edges.says("-10 less the FAULT (the one that held holds)");
+        String all = "speed 9;beat 9;step 9;loud 9 p<9;late 9 p<9";
+        FieldBand x = Edges.row("", 1, 1);
+        for (int round = 0; round < 2; round++) {
+            // once behind a text with a FAULT, once behind a SHOW that is undone
+            if (round == 0) Edges.due("with a FAULT", Edges.show(x, all + ";"), -10 - 44);
+            x.image();
+            if (round == 1) Edges.due("show", Edges.show(x, all), 0);
+            x.undo();
+            Edges.due("SPEED without", x.told(0), 3);
+            Edges.due("show", Edges.show(x, "late 4 p=9;loud 5 p=0"), 0);
+            Edges.due("SPEED", x.told(0), 3);
+            Edges.due("BEAT", x.told(1), 50);
+            Edges.due("STEP", x.told(2), 2);
+            Edges.due("LOUD", x.of(0, 3), 6);
+            Edges.due("SLIP", x.of(0, 4), 0);
+            x.undo();
+        }
     }
 
     private static void withoutShow() {
