@@ -4,12 +4,11 @@ import java.lang.reflect.Method;
 import java.lang.reflect.Modifier;
 import java.nio.file.Files;
 import java.nio.file.Path;
+import java.util.Map;
 import java.util.Set;
 import java.util.TreeSet;
-import java.util.regex.Matcher;
-import java.util.regex.Pattern;
 
-/** The face is the document's and no more, and the text keeps to what of LANGUAGE.md can be seen by words. */
+/** The face is the document's and no more (rule 1 of LANGUAGE.md; the other rules are LanguageTest's). */
 public final class FaceTest {
     private static int wrong = 0;
 
@@ -20,6 +19,10 @@ public final class FaceTest {
         "seen(int)", "off(int)", "whom(int,int,int)", "out()",
         "act(int,int,int)", "trace(int)", "as(int,int)", "image()", "undo()", "count(int)"};
 
+    /** By the place of a group's first method in METHODS. */
+    private static final Map<Integer, String> HEADS = Map.of(
+        0, "shows, players", 7, "hearing", 13, "forms", 19, "films", 23, "acts, the image");
+
     private static void check(boolean holds, String rule) {
         if (!holds) {
             wrong++;
@@ -29,8 +32,7 @@ public final class FaceTest {
 
     public static void main(String[] args) throws Exception {
         members();
-        nestedClasses();
-        text(Files.readString(Path.of(System.getProperty("fieldband.source", "src/main/java/FieldBand.java"))));
+        groups(Files.readString(Path.of(System.getProperty("fieldband.source", "src/main/java/FieldBand.java"))));
         if (wrong != 0) System.exit(1);
     }
 
@@ -70,40 +72,18 @@ public final class FaceTest {
         check(FieldBand.NONE == -1 && FieldBand.BAD == -2 && FieldBand.STATE == -3 && FieldBand.FULL == -4, "constants");
     }
 
-    private static void nestedClasses() {
-        Class<?>[] nested = FieldBand.class.getDeclaredClasses();
-        check(nested.length <= 12, "some twelve classes at most");
-        for (Class<?> one : nested) {
-            check(Modifier.isStatic(one.getModifiers()), "static class " + one.getSimpleName());
-            check(!Modifier.isPublic(one.getModifiers()) && !Modifier.isProtected(one.getModifiers()),
-                "private or package-visible class " + one.getSimpleName());
-            for (Method method : one.getDeclaredMethods()) {
-                check(method.getParameterCount() <= 7, "seven parameters: " + method.getName());
-            }
-            for (Field field : one.getDeclaredFields()) staticsAreFinal(field);
+    /** "Ahead of the calls .. the interface says": the heads of the groups, and the calls in the document's order. */
+    private static void groups(String source) {
+        int at = 0;
+        for (int i = 0; i < METHODS.length; i++) {
+            if (HEADS.containsKey(i)) at = behind(source, "    // ---- " + HEADS.get(i) + "\n", at);
+            at = behind(source, "    public int " + METHODS[i].substring(0, METHODS[i].indexOf('(') + 1), at);
         }
-        for (Field field : FieldBand.class.getDeclaredFields()) staticsAreFinal(field);
     }
 
-    private static void staticsAreFinal(Field field) {
-        check(!Modifier.isStatic(field.getModifiers()) || Modifier.isFinal(field.getModifiers()),
-            "static and final: " + field.getName());
-    }
-
-    private static void text(String source) {
-        check(source.chars().allMatch(c -> c < 128), "plain signs alone");
-        String code = source.replaceAll("(?s)/\\*.*?\\*/", "").replaceAll("//[^\n]*", "")
-            .replaceAll("\"[^\"\n]*\"", "\"\"");
-        String words = "\\b(throw|throws|try|catch|synchronized|assert|import|package|goto|native|volatile|transient|"
-            + "Object|Exception|Error|Thread|Random|Exact|hashCode|toString)\\b|->|::";
-        Matcher forbidden = Pattern.compile(words).matcher(code);
-        check(!forbidden.find(), "none of the words that the rules leave out");
-        Matcher system = Pattern.compile("\\bSystem\\.(\\w+)").matcher(code);
-        while (system.find()) check(system.group(1).equals("arraycopy"), "System." + system.group(1));
-        Matcher method = Pattern.compile("(?m)^(    |        )[a-z][^;=\n]*\\) \\{\n((?!\\1\\}).*\n)*").matcher(code);
-        while (method.find()) {
-            String body = method.group();
-            check(body.chars().filter(c -> c == '\n').count() <= 60, "sixty lines: " + body.lines().findFirst().get());
-        }
+    private static int behind(String source, String text, int from) {
+        int at = source.indexOf(text, from);
+        check(at >= 0, "in its place: " + text.trim());
+        return Math.max(from, at);
     }
 }
